@@ -1,0 +1,38 @@
+import java.util.regex.Matcher;
+import java.util.regex.Pattern;
+
+/** The rules of LANGUAGE.md that can be read off the text of the program. */
+final class LanguageTest {
+    private static final Pattern COMMENT = Pattern.compile("(?s)/\\*.*?\\*/|//[^\n]*");
+    private static final Pattern TEXT = Pattern.compile("\"[^\"\n]*\"");
+    private static final Pattern IMPORT = Pattern.compile("import ([\\w.]+);");
+    private static final Pattern THROW = Pattern.compile("\\bthrow\\b([^;]*);");
+    private static final String[] OUTSIDE = {
+        "->", "::", "@", "\\btry\\b", "\\bcatch\\b", "\\bfinally\\b", "\\bsynchronized\\b", "\\bassert\\b",
+        "\\bpackage\\b", "\\bvar\\b", "\\binstanceof\\b", "\\bnative\\b", "\\bThread\\b", "\\bSystem\\.(?!arraycopy)",
+        "\\bObject\\b", "\\w+Exact\\b", "\\bprotected\\b", "\\bstatic \\{", "\" \\+", "\\+ \"", "\\+= \""
+    };
+
+    private final Check check;
+
+    LanguageTest(Check check) {
+        this.check = check;
+    }
+
+    void run(String source) {
+        check.test("LANGUAGE.md, the text of the program");
+        String code = TEXT.matcher(COMMENT.matcher(source).replaceAll("")).replaceAll("\"\"");
+        for (String outside : OUTSIDE) {
+            check.due("no " + outside, (Pattern.compile(outside).matcher(code).find() ? "a " : "no ") + outside);
+        }
+        Matcher imports = IMPORT.matcher(code);
+        while (imports.find()) {
+            check.due(true, imports.group(1).matches("java\\.util\\.(ArrayList|NoSuchElementException)"));
+        }
+        Matcher thrown = THROW.matcher(code);
+        while (thrown.find()) {
+            check.due(true, thrown.group(1).matches(" new (IllegalState|IllegalArgument|IndexOutOfBounds|Arithmetic"
+                    + "|UnsupportedOperation|NoSuchElement)Exception\\(\"\"\\)"));
+        }
+    }
+}
