@@ -450,9 +450,9 @@ public final class QualityGate {
         int most = 0;
         int greatest = NONE;
         for (int column = 0; column < COLUMNS; column++) {
-            int drift = driftFromProfile(column);
-            if (drift > greatest) {
-                greatest = drift;
+            int drifted = driftFromProfile(column);
+            if (drifted > greatest) {
+                greatest = drifted;
                 most = column;
             }
         }
@@ -1033,9 +1033,11 @@ public final class QualityGate {
         }
 
         boolean isEachClassEqualIn(ArrayList<Row> rows, int column) {
-            for (int i = 0; i < size; i++) {
-                if (rows.get(i).value(column) != rows.get(firsts[i]).value(column)) {
-                    return false;
+            for (int first = 0; first < size; first++) {
+                for (int i = first + 1; i < size; i++) {
+                    if (firsts[i] == first && rows.get(i).value(column) != rows.get(first).value(column)) {
+                        return false;
+                    }
                 }
             }
             return true;

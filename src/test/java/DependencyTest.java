@@ -177,6 +177,10 @@ final class DependencyTest {
         QualityGate many = Gates.with(Gates.row(0, 0, 0, 0, 0), Gates.row(0, 0, 1, 1, 0), Gates.row(0, 1, 0, 0, 1),
                 Gates.row(1, 1, 1, 0, 1));
         check.due(6, many.smallestKey());
+        QualityGate whole = Gates.with(Gates.row(0, 0, 0, 0, 0), Gates.row(1, 0, 0, 0, 0), Gates.row(0, 1, 0, 0, 0),
+                Gates.row(0, 0, 1, 0, 0), Gates.row(0, 0, 0, 1, 0), Gates.row(0, 0, 0, 0, 1));
+        check.due(31, whole.smallestKey());
+        check.dueThrow(IndexOutOfBoundsException.class, () -> whole.minimalAt(0, 0));
     }
 
     private void errorOf() {

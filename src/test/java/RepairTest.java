@@ -81,6 +81,9 @@ final class RepairTest {
         chain.addUnique(1, false);
         dueFewest(2, chain);
         check.due("2 3", Gates.inRepair(chain));
+        chain.setValue(3, 0, M);
+        check.due(1, chain.fewestRemovalsByTrying());
+        check.due("0", Gates.inRepair(chain));
     }
 
     private void isInRepairWrong() {
@@ -109,6 +112,9 @@ final class RepairTest {
         gate.stage(9, 0, 0, 0, 0);
         gate.commit();
         check.due("0 1 3 7", Gates.ids(gate));
+        gate.setValue(0, 0, M);
+        check.due(1, gate.repair());
+        check.due("1 3 7", Gates.ids(gate));
     }
 
     private void repairCountsAllRulesInForce() {

@@ -180,6 +180,11 @@ final class RuleTest {
         check.due(3, gate.addRequired(0, false));
         check.due(1, gate.dropRule(2));
         check.due(0, gate.dropRule(3));
+        QualityGate two = new QualityGate();
+        two.addRequired(0, false);
+        two.addUnique(0, false);
+        check.due(1, two.dropRule(1));
+        check.due(0, two.dropRule(0));
     }
 
     private void violations() {
