@@ -806,7 +806,7 @@ public final class QualityGate {
         }
 
         boolean isPresent(int column) {
-            return value(column) != MISSING;
+            return column >= 0 && column < values.length && values[column] != MISSING;
         }
 
         boolean isEqualIn(int set, Row other) {
