@@ -2,6 +2,8 @@ import java.io.IOException;
 import java.nio.charset.StandardCharsets;
 import java.nio.file.Files;
 import java.nio.file.Path;
+import java.util.Set;
+import java.util.TreeSet;
 
 /** Runs every test of the project; takes the path of the class's source. */
 public final class AllTests {
@@ -17,12 +19,33 @@ public final class AllTests {
         new DependencyTest(check).run();
         new OutlierTest(check).run();
         new ProfileTest(check).run();
+        new BatchEdgeTest(check).run();
+        new RejectionEdgeTest(check).run();
+        new RowEdgeTest(check).run();
+        new RuleEdgeTest(check).run();
+        new ConflictEdgeTest(check).run();
+        new RepairEdgeTest(check).run();
+        new DependencyEdgeTest(check).run();
+        new OutlierEdgeTest(check).run();
+        new ProfileEdgeTest(check).run();
+        new RefusedTest(check).run();
+        everyPromiseHasTests(check);
         new ModelTest(check).run();
         new FaceTest(check).run();
+        new LibraryTest(check).run();
         new LanguageTest(check).run(Files.readString(Path.of(args[0]), StandardCharsets.UTF_8));
         System.out.println("own checks: " + check.passed() + " hold, " + check.failed() + " do not");
         if (check.failed() != 0 || check.passed() == 0) {
             System.exit(1);
         }
+    }
+
+    private static void everyPromiseHasTests(Check check) {
+        check.test("each promise has tests by its name");
+        Set<Integer> promises = new TreeSet<>();
+        for (int promise = 1; promise <= 49; promise++) {
+            promises.add(promise);
+        }
+        check.due(promises, check.promises());
     }
 }

@@ -10,7 +10,7 @@ import java.util.TreeSet;
 
 /** The public face of the class: what stands in the document and nothing more. */
 final class FaceTest {
-    private static final String[] FACE = {
+    static final String[] FACE = {
         "QualityGate()",
         "int stage(int,int,int,int,int) throws IllegalArgumentException, IllegalStateException",
         "int commit() throws IllegalStateException, UnsupportedOperationException",

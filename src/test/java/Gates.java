@@ -23,6 +23,36 @@ final class Gates {
         return gate;
     }
 
+    /** A gate with 12 rows, whose values in column 0 are 0 to 11, and 0 elsewhere. */
+    static QualityGate full() {
+        return withColumn(0, 1, 2, 3, 4, 5, 6, 7, 8, 9, 10, 11);
+    }
+
+    /** Stages rows with these values in column 0, and 0 elsewhere. */
+    static void stageColumn(QualityGate gate, int... values) {
+        for (int value : values) {
+            gate.stage(value, 0, 0, 0, 0);
+        }
+    }
+
+    /** Stages rows until 6 are staged. */
+    static void fillBatch(QualityGate gate) {
+        while (gate.staged() < 6) {
+            gate.stage(0, 0, 0, 0, 0);
+        }
+    }
+
+    /** Adds rules that are not strict, until 10 rules have been added. */
+    static void fillRules(QualityGate gate) {
+        for (int i = 0; i < 10; i++) {
+            try {
+                gate.addRequired(0, false);
+            } catch (IllegalStateException full) {
+                return;
+            }
+        }
+    }
+
     static int[] row(int a, int b, int c, int d, int e) {
         return new int[] {a, b, c, d, e};
     }

@@ -7,6 +7,9 @@ final class LanguageTest {
     private static final Pattern TEXT = Pattern.compile("\"[^\"\n]*\"");
     private static final Pattern IMPORT = Pattern.compile("import ([\\w.]+);");
     private static final Pattern THROW = Pattern.compile("\\bthrow\\b([^;]*);");
+    private static final Pattern METHOD = Pattern.compile(
+            "( {4}| {8})(?!(?:if|for|while|switch|return|throw|do)\\b)\\w[^;=]*\\([^;=]*");
+    private static final int MOST_LINES = 60;
     private static final String[] OUTSIDE = {
         "->", "::", "@", "\\btry\\b", "\\bcatch\\b", "\\bfinally\\b", "\\bsynchronized\\b", "\\bassert\\b",
         "\\bpackage\\b", "\\bvar\\b", "\\binstanceof\\b", "\\bnative\\b", "\\bThread\\b", "\\bSystem\\.(?!arraycopy)",
@@ -25,6 +28,7 @@ final class LanguageTest {
         for (String outside : OUTSIDE) {
             check.due("no " + outside, (Pattern.compile(outside).matcher(code).find() ? "a " : "no ") + outside);
         }
+        methodsAreShort(code);
         Matcher imports = IMPORT.matcher(code);
         while (imports.find()) {
             check.due(true, imports.group(1).matches("java\\.util\\.(ArrayList|NoSuchElementException)"));
@@ -34,5 +38,24 @@ final class LanguageTest {
             check.due(true, thrown.group(1).matches(" new (IllegalState|IllegalArgument|IndexOutOfBounds|Arithmetic"
                     + "|UnsupportedOperation|NoSuchElement)Exception\\(\"\"\\)"));
         }
+    }
+
+    /** A method begins at a line of a class that has parentheses, and ends at the brace below its first letter. */
+    private void methodsAreShort(String code) {
+        check.test("LANGUAGE.md, rule 11");
+        String[] lines = code.split("\n");
+        int methods = 0;
+        for (int start = 0; start < lines.length; start++) {
+            Matcher opening = METHOD.matcher(lines[start]);
+            if (opening.matches()) {
+                int end = start;
+                while (end < lines.length && !lines[end].equals(opening.group(1) + "}")) {
+                    end++;
+                }
+                check.due(true, end - start < MOST_LINES);
+                methods++;
+            }
+        }
+        check.due(true, methods >= 49);
     }
 }

@@ -52,7 +52,7 @@ final class RuleTest {
         check.dueThrow(IllegalArgumentException.class, () -> gate.addRange(0, 100, 100, true));
         check.dueThrow(IllegalArgumentException.class, () -> gate.addRange(0, -100, -100, true));
         check.due(0, gate.addRange(0, 99, 99, true));
-        fillRules(gate);
+        Gates.fillRules(gate);
         check.dueThrow(IndexOutOfBoundsException.class, () -> gate.addRange(5, 0, 1, true));
         check.dueThrow(IllegalArgumentException.class, () -> gate.addRange(0, 2, 1, true));
         check.dueThrow(IllegalStateException.class, () -> gate.addRange(0, 1, 2, true));
@@ -68,7 +68,7 @@ final class RuleTest {
         check.dueThrow(IndexOutOfBoundsException.class, () -> gate.addRequired(5, true));
         check.dueThrow(IndexOutOfBoundsException.class, () -> gate.addRequired(-1, true));
         check.due(1, gate.addRequired(4, true));
-        fillRules(gate);
+        Gates.fillRules(gate);
         check.dueThrow(IndexOutOfBoundsException.class, () -> gate.addRequired(5, true));
         check.dueThrow(IllegalStateException.class, () -> gate.addRequired(0, true));
     }
@@ -91,7 +91,7 @@ final class RuleTest {
         check.dueThrow(IndexOutOfBoundsException.class, () -> gate.addOrder(-1, 0, true));
         check.dueThrow(IllegalArgumentException.class, () -> gate.addOrder(4, 4, true));
         check.due(2, gate.addOrder(0, 1, true));
-        fillRules(gate);
+        Gates.fillRules(gate);
         check.dueThrow(IndexOutOfBoundsException.class, () -> gate.addOrder(0, -1, true));
         check.dueThrow(IllegalArgumentException.class, () -> gate.addOrder(1, 1, true));
         check.dueThrow(IllegalStateException.class, () -> gate.addOrder(0, 1, true));
@@ -110,7 +110,7 @@ final class RuleTest {
         check.dueThrow(IndexOutOfBoundsException.class, () -> gate.addUnique(5, true));
         check.dueThrow(IndexOutOfBoundsException.class, () -> gate.addUnique(-1, true));
         check.due(1, gate.addUnique(4, true));
-        fillRules(gate);
+        Gates.fillRules(gate);
         check.dueThrow(IndexOutOfBoundsException.class, () -> gate.addUnique(5, true));
         check.dueThrow(IllegalStateException.class, () -> gate.addUnique(0, true));
     }
@@ -137,7 +137,7 @@ final class RuleTest {
         check.dueThrow(IllegalArgumentException.class, () -> gate.addDependency(4, 2, true));
         check.dueThrow(IllegalArgumentException.class, () -> gate.addDependency(31, 4, true));
         check.due(3, gate.addDependency(30, 0, true));
-        fillRules(gate);
+        Gates.fillRules(gate);
         check.dueThrow(IndexOutOfBoundsException.class, () -> gate.addDependency(0, 5, true));
         check.dueThrow(IllegalArgumentException.class, () -> gate.addDependency(1, 0, true));
         check.dueThrow(IllegalStateException.class, () -> gate.addDependency(1, 1, true));
@@ -278,15 +278,5 @@ final class RuleTest {
         gate.addUnique(0, false);
         gate.addUnique(1, true);
         return gate;
-    }
-
-    private static void fillRules(QualityGate gate) {
-        for (int i = 0; i < 10; i++) {
-            try {
-                gate.addRequired(0, false);
-            } catch (IllegalStateException full) {
-                return;
-            }
-        }
     }
 }
