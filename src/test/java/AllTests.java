@@ -5,13 +5,14 @@ import java.nio.file.Path;
 import java.util.Set;
 import java.util.TreeSet;
 
-/** Runs every test of the project; takes the path of the class's source. */
+/** Runs every test of the project; takes the paths of the class's source and of the document. */
 public final class AllTests {
     private AllTests() {
     }
 
-    public static void main(String[] args) throws IOException {
+    public static void main(String[] args) throws IOException, ReflectiveOperationException {
         Check check = new Check();
+        String source = Files.readString(Path.of(args[0]), StandardCharsets.UTF_8);
         new BatchTest(check).run();
         new RowTest(check).run();
         new RuleTest(check).run();
@@ -30,13 +31,33 @@ public final class AllTests {
         new ProfileEdgeTest(check).run();
         new RefusedTest(check).run();
         everyPromiseHasTests(check);
+        sentences(check, source, Path.of(args[1]));
         new ModelTest(check).run();
         new FaceTest(check).run();
         new LibraryTest(check).run();
-        new LanguageTest(check).run(Files.readString(Path.of(args[0]), StandardCharsets.UTF_8));
+        new LanguageTest(check).run(source);
         System.out.println("own checks: " + check.passed() + " hold, " + check.failed() + " do not");
         if (check.failed() != 0 || check.passed() == 0) {
             System.exit(1);
+        }
+    }
+
+    private static void sentences(Check check, String source, Path document)
+            throws IOException, ReflectiveOperationException {
+        Sentences sentences = new Sentences(check);
+        new TermsSentenceTest(check, sentences).run();
+        new FigureTermsSentenceTest(check, sentences, source).run();
+        new BatchSentenceTest(check, sentences).run();
+        new RowSentenceTest(check, sentences).run();
+        new RuleSentenceTest(check, sentences).run();
+        new RepairSentenceTest(check, sentences).run();
+        new DependencySentenceTest(check, sentences).run();
+        new OutlierSentenceTest(check, sentences).run();
+        new ProfileSentenceTest(check, sentences).run();
+        if (Files.exists(document)) {
+            new DocumentTest(check).run(document, sentences.quoted());
+        } else {
+            System.out.println("no " + document + ": the quoted sentences are not compared with it");
         }
     }
 

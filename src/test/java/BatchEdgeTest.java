@@ -375,19 +375,14 @@ final class BatchEdgeTest {
         check.dueThrow(UnsupportedOperationException.class, gate::commit);
         gate.discard();
         check.dueThrow(IllegalStateException.class, gate::commit);
-        check.due("1 0 0 true", rejection(gate));
+        check.due("1 0 0 true", Gates.rejection(gate));
         Gates.stageColumn(gate, 5, 5, 5);
         check.dueThrow(IllegalStateException.class, gate::commit);
-        check.due("1 0 0 true", rejection(gate));
+        check.due("1 0 0 true", Gates.rejection(gate));
         gate.discard();
         gate.stage(31, 0, 0, 0, 0);
         check.due(11, gate.commit());
-        check.due("1 0 0 true", rejection(gate));
-    }
-
-    private static String rejection(QualityGate gate) {
-        return gate.rejectedRow() + " " + gate.rejectedRule() + " " + gate.rejectedOther() + " "
-                + gate.isOtherStaged();
+        check.due("1 0 0 true", Gates.rejection(gate));
     }
 
     private void refusedCommitGivesNoIds() {
@@ -610,7 +605,7 @@ final class BatchEdgeTest {
         check.dueThrow(UnsupportedOperationException.class, gate::commit);
         check.due(2, gate.discard());
         check.due("0 1", Gates.ids(gate));
-        check.due("1 0 1 false", rejection(gate));
+        check.due("1 0 1 false", Gates.rejection(gate));
         gate.stage(3, 0, 0, 0, 0);
         check.due(3, gate.commit());
         check.due("0 1 2", Gates.ids(gate));

@@ -74,13 +74,18 @@ final class FaceTest {
     void run() {
         check.test("the public face");
         check.due(Modifier.PUBLIC | Modifier.FINAL, QualityGate.class.getModifiers());
+        check.due(Object.class, QualityGate.class.getSuperclass());
+        check.due(0, QualityGate.class.getInterfaces().length);
+        check.due("", QualityGate.class.getPackageName());
         Set<String> found = new TreeSet<>();
         for (Constructor<?> constructor : QualityGate.class.getDeclaredConstructors()) {
+            check.due(Modifier.PUBLIC, constructor.getModifiers());
             found.add(signature("QualityGate", constructor));
         }
         Set<String> names = new HashSet<>();
         for (Method method : QualityGate.class.getDeclaredMethods()) {
             if (Modifier.isPublic(method.getModifiers())) {
+                check.due(Modifier.PUBLIC, method.getModifiers());
                 found.add(signature(method.getReturnType() + " " + method.getName(), method));
                 names.add(method.getName());
             }

@@ -89,4 +89,9 @@ final class Gates {
         }
         return text.toString();
     }
+
+    /** What is recorded of the latest rejection, if it was at a pair rule. */
+    static String rejection(QualityGate gate) {
+        return gate.rejectedRow() + " " + gate.rejectedRule() + " " + gate.rejectedOther() + " " + gate.isOtherStaged();
+    }
 }

@@ -271,22 +271,17 @@ final class RefusedTest {
         QualityGate twin = used();
         gate.stage(3, 3, 3, 3, 3);
         twin.stage(3, 3, 3, 3, 3);
-        check.due("0 3 2 false", rejection(gate));
+        check.due("0 3 2 false", Gates.rejection(gate));
         check.dueThrow(UnsupportedOperationException.class, gate::commit);
-        check.due("2 3 2 false", rejection(gate));
-        check.due("0 3 2 false", rejection(twin));
+        check.due("2 3 2 false", Gates.rejection(gate));
+        check.due("0 3 2 false", Gates.rejection(twin));
         check.due(new Look(twin).allButRejection(), new Look(gate).allButRejection());
         gate.dropRule(3);
         twin.dropRule(3);
         check.due(6, gate.commit());
         check.due(6, twin.commit());
         check.due(new Look(twin).allButRejection(), new Look(gate).allButRejection());
-        check.due("2 3 2 false", rejection(gate));
-    }
-
-    private static String rejection(QualityGate gate) {
-        return gate.rejectedRow() + " " + gate.rejectedRule() + " " + gate.rejectedOther() + " "
-                + gate.isOtherStaged();
+        check.due("2 3 2 false", Gates.rejection(gate));
     }
 
     private void askingChangesNothing() {
