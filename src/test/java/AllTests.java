@@ -30,6 +30,7 @@ public final class AllTests {
         new OutlierEdgeTest(check).run();
         new ProfileEdgeTest(check).run();
         new RefusedTest(check).run();
+        new FrameTest(check).run();
         everyPromiseHasTests(check);
         sentences(check, source, Path.of(args[1]));
         new ModelTest(check).run();

@@ -181,6 +181,11 @@ final class BatchSentenceTest {
                 + " rows");
         check.dueThrow(IllegalStateException.class, new QualityGate()::commit);
         check.dueThrow(IllegalStateException.class, Gates.full()::commit);
+        QualityGate rejected = strict();
+        rejected.stage(1, 0, 0, 0, 0);
+        rejected(rejected);
+        rejected.discard();
+        check.dueThrow(IllegalStateException.class, rejected::commit);
         for (int rows = 0; rows <= 12; rows++) {
             for (int more = 1; more <= 6; more++) {
                 QualityGate gate = new QualityGate();

@@ -328,6 +328,8 @@ final class DependencySentenceTest {
         check.due(6, gate.errorOf(0, 2));
         check.due(4, gate.errorOf(0, 0));
         check.due(0, gate.errorOf(1, 3));
+        check.due(2, Gates.with(Gates.row(1, 6, 0, 0, 0), Gates.row(1, 5, 0, 0, 0), Gates.row(1, M, 0, 0, 0),
+                Gates.row(1, 5, 0, 0, 0), Gates.row(2, M, 0, 0, 0), Gates.row(2, M, 0, 0, 0)).errorOf(1, 1));
 
         document.says("- `set`: the set of columns");
         check.due("1 5 0", gate.errorOf(2, 2) + " " + gate.errorOf(24, 1) + " " + gate.errorOf(4, 1));

@@ -4,12 +4,16 @@ final class ModelTest {
     /** An object answers as the document says up to its 512th call, so that ids are asked of the model alone. */
     private static final int CALLS = 512;
     private static final int KINDS = 48;
+    /** The kinds that give many ids: five rows staged and removed, and a commit. */
+    private static final int[] FILLING = {1, 1, 1, 1, 1, 2, 0, 0, 0, 0, 0};
     private static final int[] FAR = {-1, 5, 31, 32, 100, 101, -99, -100, 99, Integer.MIN_VALUE, Integer.MAX_VALUE};
 
     private final Check check;
     private long seed;
     private int width;
     private int strictShare;
+    private int ruleShare;
+    private boolean isFilling;
 
     ModelTest(Check check) {
         this.check = check;
@@ -20,6 +24,8 @@ final class ModelTest {
             seed = run * 7919L;
             width = new int[] {2, 3, 6, 199}[run % 4];
             strictShare = run % 3;
+            ruleShare = run % 5 == 0 ? 2 : 6;
+            isFilling = run % 11 == 0;
             QualityGate gate = new QualityGate();
             Model model = new Model();
             for (int call = 0; call < CALLS; call++) {
@@ -36,6 +42,9 @@ final class ModelTest {
 
     /** Calls that fill, change and empty the table come more often, so that the others find something new. */
     private int kind() {
+        if (isFilling && number(4) != 0) {
+            return FILLING[number(FILLING.length)];
+        }
         int pick = number(KINDS + 24);
         if (pick < KINDS) {
             return pick;
@@ -131,7 +140,7 @@ final class ModelTest {
         int high = number(4) == 0 ? value() : low + number(4);
         boolean isStrict = isStrict();
         // a run begins with few rules, so that rows come into the table before strict rules stand
-        boolean isWanted = number(6) == 0;
+        boolean isWanted = number(ruleShare) == 0 && !isFilling;
         switch (kind) {
             case 13 -> {
                 if (isWanted) {

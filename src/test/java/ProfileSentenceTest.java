@@ -317,6 +317,7 @@ final class ProfileSentenceTest {
         gate.setValue(4, 2, M);
         gate.stage(1, 1, 1, 1, 1);
         check.due(true, gate.isConsistent());
+        check.due(12, gate.rowCount());
         gate.repair();
         check.due(true, gate.isConsistent());
         check.due("0", Gates.ids(gate));

@@ -575,6 +575,19 @@ final class RuleSentenceTest {
         return gate;
     }
 
+    /** A full table in which each row conflicts with the next one of an order that goes to and fro. */
+    private static QualityGate zigzag() {
+        int[] order = {5, 6, 4, 7, 3, 8, 2, 9, 1, 10, 0, 11};
+        QualityGate gate = Gates.full();
+        for (int place = 0; place < 12; place++) {
+            gate.setValue(order[place], 0, place / 2);
+            gate.setValue(order[place], 1, (place + 1) / 2);
+        }
+        gate.addUnique(0, false);
+        gate.addUnique(1, false);
+        return gate;
+    }
+
     private void groups() {
         document.section("promise 24");
         document.says("Returns the number of groups of rows of the table: two rows belong to the same group if they"
@@ -592,6 +605,10 @@ final class RuleSentenceTest {
         check.due(2, chain.groups());
         chain.stage(2, 20, M, 0, 0);
         check.due(2, chain.groups());
+        QualityGate longest = zigzag();
+        check.due(1, longest.groups());
+        longest.removeRow(3);
+        check.due(2, longest.groups());
 
         document.says("A row without conflicts is a group of its own.");
         check.due(12, Gates.full().groups());
@@ -618,6 +635,7 @@ final class RuleSentenceTest {
         check.due("4 4 2 4 2 4 1", sizes(gate));
         gate.addUnique(2, false);
         check.due("7 7 7 7 7 7 7", sizes(gate));
+        check.due("12 12 12 12 12 12 12 12 12 12 12 12", sizes(zigzag()));
 
         document.says("- `id`: the id of the row");
         gate.dropRule(3);

@@ -64,13 +64,28 @@ final class TermsSentenceTest {
         document.says("An object is used for at most 512 calls after it has been made; what later calls answer is"
                 + " free.");
         QualityGate gate = new QualityGate();
-        for (int call = 1; call <= 510; call += 3) {
-            check.due(1, gate.stage(call % 90, 0, 0, 0, M));
-            check.due(1, gate.commit());
-            check.due(0, gate.removeRow(call / 3));
+        check.due(0, gate.addRange(0, 50, 60, false));
+        int calls = 1;
+        int ids = 0;
+        // as many rows as can be added: each round takes nine calls, and the last of them is the 505th
+        while (calls + 9 <= 512) {
+            for (int row = 1; row <= 6; row++) {
+                check.due(row, gate.stage(row, 0, 0, 0, M));
+            }
+            check.due(6, gate.commit());
+            check.due(ids + 5, gate.rowAt(5));
+            check.due(6, gate.repair());
+            ids += 6;
+            calls += 9;
         }
-        check.due(1, gate.stage(1, 2, 3, 4, 5));
+        check.due(505, calls);
+        check.due(1, gate.stage(51, 2, 3, 4, 5));
         check.due(1, gate.commit());
+        check.due(ids, gate.rowAt(0));
+        check.due(51, gate.valueAt(336, 0));
+        check.due(true, gate.isConsistent());
+        check.due(0, gate.repair());
+        check.due(1, gate.rowCount());
     }
 
     private void columnsAndRows() {
