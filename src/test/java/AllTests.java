@@ -12,7 +12,6 @@ public final class AllTests {
 
     public static void main(String[] args) throws IOException, ReflectiveOperationException {
         Check check = new Check();
-        String source = Files.readString(Path.of(args[0]), StandardCharsets.UTF_8);
         new BatchTest(check).run();
         new RowTest(check).run();
         new RuleTest(check).run();
@@ -32,22 +31,21 @@ public final class AllTests {
         new RefusedTest(check).run();
         new FrameTest(check).run();
         everyPromiseHasTests(check);
-        sentences(check, source, Path.of(args[1]));
+        sentences(check, Path.of(args[1]));
         new ModelTest(check).run();
         new FaceTest(check).run();
         new LibraryTest(check).run();
-        new LanguageTest(check).run(source);
+        new LanguageTest(check).run(Files.readString(Path.of(args[0]), StandardCharsets.UTF_8));
         System.out.println("own checks: " + check.passed() + " hold, " + check.failed() + " do not");
         if (check.failed() != 0 || check.passed() == 0) {
             System.exit(1);
         }
     }
 
-    private static void sentences(Check check, String source, Path document)
-            throws IOException, ReflectiveOperationException {
+    private static void sentences(Check check, Path document) throws IOException, ReflectiveOperationException {
         Sentences sentences = new Sentences(check);
         new TermsSentenceTest(check, sentences).run();
-        new FigureTermsSentenceTest(check, sentences, source).run();
+        new FigureTermsSentenceTest(check, sentences).run();
         new BatchSentenceTest(check, sentences).run();
         new RowSentenceTest(check, sentences).run();
         new RuleSentenceTest(check, sentences).run();

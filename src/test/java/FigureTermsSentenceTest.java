@@ -1,26 +1,25 @@
 import java.lang.reflect.Field;
+import java.lang.reflect.Method;
 import java.lang.reflect.Modifier;
 import java.util.ArrayList;
 import java.util.Arrays;
 import java.util.List;
 import java.util.NoSuchElementException;
-import java.util.regex.Matcher;
-import java.util.regex.Pattern;
+import java.util.Set;
+import java.util.TreeSet;
 
 /** The sentences of "Terms" about dependencies, repairs, outliers, profiles, exceptions and the constant. */
 final class FigureTermsSentenceTest {
     private static final int M = Gates.M;
-    private static final Pattern PUBLIC_METHOD = Pattern.compile(" {4}public \\w+ (\\w+)\\(.*");
-    private static final String SECTION = "    // ---- ";
 
     private final Check check;
     private final Sentences document;
-    private final String source;
+    /** The calls of the parts of the interface that were quoted so far. */
+    private final Set<String> calls = new TreeSet<>();
 
-    FigureTermsSentenceTest(Check check, Sentences document, String source) {
+    FigureTermsSentenceTest(Check check, Sentences document) {
         this.check = check;
         this.document = document;
-        this.source = source;
     }
 
     void run() throws ReflectiveOperationException {
@@ -511,8 +510,7 @@ final class FigureTermsSentenceTest {
 
     private void interfaceSections() {
         section("batches and rows", "stage", "commit", "discard", "staged", "rejectedRow", "rejectedRule",
-                "rejectedOther",
-                "isOtherStaged", "removeRow", "setValue", "valueAt", "rowCount", "rowAt");
+                "rejectedOther", "isOtherStaged", "removeRow", "setValue", "valueAt", "rowCount", "rowAt");
         section("rules", "addRange", "addRequired", "addOrder", "addUnique", "addDependency", "dropRule", "violations",
                 "isBad", "conflict", "groups", "groupSize");
         section("repairs", "fewestRemovals", "fewestRemovalsByTrying", "isInRepair", "repair");
@@ -521,19 +519,25 @@ final class FigureTermsSentenceTest {
         section("outliers", "setFactor", "medianOf", "spreadOf", "isOutlier", "outliers");
         section("profiles and figures", "saveProfile", "drift", "mostDrifted", "meanOf", "missingShare",
                 "isConsistent");
+        check.due(publicMethods(), calls);
     }
 
-    private void section(String name, String... calls) {
-        document.says("Ahead of the calls `" + String.join("`, `", calls) + "` the interface says: ---- " + name + ".");
-        List<String> found = new ArrayList<>();
-        boolean isInside = false;
-        for (String line : source.split("\n")) {
-            isInside = line.startsWith(SECTION) ? line.equals(SECTION + name) : isInside;
-            Matcher method = PUBLIC_METHOD.matcher(line);
-            if (isInside && method.matches()) {
-                found.add(method.group(1));
+    /** The text ahead of the calls is no answer; what can be held is that the parts together are the interface. */
+    private void section(String name, String... part) {
+        document.says("Ahead of the calls `" + String.join("`, `", part) + "` the interface says: ---- " + name + ".");
+        for (String call : part) {
+            check.due(call + " is public", call + (publicMethods().contains(call) ? " is public" : " is missing"));
+            check.due(true, calls.add(call));
+        }
+    }
+
+    private static Set<String> publicMethods() {
+        Set<String> names = new TreeSet<>();
+        for (Method method : QualityGate.class.getDeclaredMethods()) {
+            if (Modifier.isPublic(method.getModifiers())) {
+                names.add(method.getName());
             }
         }
-        check.due(List.of(calls), found);
+        return names;
     }
 }

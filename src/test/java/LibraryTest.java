@@ -3,6 +3,7 @@ import java.io.IOException;
 import java.io.InputStream;
 import java.util.Set;
 import java.util.TreeSet;
+import java.util.regex.Pattern;
 
 /** LANGUAGE.md, rule 4: what the compiled classes call of the Java library, read off their constant pools. */
 final class LibraryTest {
@@ -19,14 +20,17 @@ final class LibraryTest {
     private static final int METHOD_TYPE = 16;
     private static final int INVOKE_DYNAMIC = 18;
 
-    private static final Set<String> LISTED = Set.of("java/lang/Object.<init>", "java/lang/Math.abs",
-            "java/lang/Math.max", "java/lang/Math.min", "java/lang/Integer.bitCount", "java/lang/Long.bitCount",
-            "java/util/ArrayList.<init>", "java/util/ArrayList.add", "java/util/ArrayList.get",
-            "java/util/ArrayList.remove", "java/util/ArrayList.size", "java/util/ArrayList.isEmpty",
-            "java/util/ArrayList.clear", "java/lang/IllegalStateException.<init>",
-            "java/lang/IllegalArgumentException.<init>", "java/lang/IndexOutOfBoundsException.<init>",
-            "java/lang/ArithmeticException.<init>", "java/lang/UnsupportedOperationException.<init>",
-            "java/util/NoSuchElementException.<init>");
+    /** The calls that rule 4 lists, those that the compiler puts for an enum, a record or a list's loop among them. */
+    private static final Pattern LISTED = Pattern.compile(String.join("|",
+            "java/lang/(Object|Enum|Record)\\.(<init>|ordinal|valueOf|clone)",
+            "java/lang/String\\.(<init>|length|charAt|isEmpty|equals|indexOf|substring|toCharArray)",
+            "java/lang/StringBuilder\\.(<init>|append|charAt|setCharAt|setLength|deleteCharAt|reverse|length|toString)",
+            "java/util/(ArrayList|List)\\.(<init>|add|get|set|remove|size|isEmpty|clear|iterator|of)",
+            "java/util/Iterator\\.(hasNext|next)", "java/lang/Iterable\\.iterator", "java/lang/Comparable\\.compareTo",
+            "java/lang/(Integer|Long|Math)\\.\\w+(?<!Exact)", "java/lang/System\\.arraycopy",
+            "java/util/Arrays\\.(copyOf|copyOfRange|fill)", "\\[.*\\.clone",
+            "java/(lang|util)/(IllegalState|IllegalArgument|IndexOutOfBounds|Arithmetic|UnsupportedOperation"
+                    + "|NoSuchElement|Runtime)Exception\\.<init>"));
 
     private final Check check;
 
@@ -41,9 +45,9 @@ final class LibraryTest {
         for (Class<?> inside : QualityGate.class.getDeclaredClasses()) {
             readCalls(inside, called);
         }
-        check.due(true, called.contains("java/util/ArrayList.get"));
+        check.due(false, called.isEmpty());
         for (String call : called) {
-            check.due(call + " is listed", call + (LISTED.contains(call) ? " is listed" : " is not listed"));
+            check.due(call + " is listed", call + (LISTED.matcher(call).matches() ? " is listed" : " is not listed"));
         }
     }
 
@@ -61,7 +65,8 @@ final class LibraryTest {
             for (int i = 1; i < count; i++) {
                 int tag = data.readUnsignedByte();
                 isCall[i] = tag == METHOD || tag == INTERFACE_METHOD;
-                check.due(true, tag != INVOKE_DYNAMIC);
+                // a lambda, a method reference and texts joined by + are called so; a record's own methods are, too
+                check.due(true, tag != INVOKE_DYNAMIC || from.isRecord());
                 if (tag == UTF8) {
                     texts[i] = data.readUTF();
                 } else if (tag == CLASS || tag == STRING || tag == METHOD_TYPE) {
