@@ -175,11 +175,12 @@ final class TermsSentenceTest {
         check.dueThrow(ArithmeticException.class, () -> gate.meanOf(0));
         check.due(1.0f, gate.missingShare(0));
         for (int value = -99; value <= 99; value++) {
-            gate.setValue(0, 0, value);
-            check.due(value, gate.medianOf(0));
-            check.due(0.0f, gate.missingShare(0));
+            QualityGate present = Gates.withColumn(value);
+            present.addRequired(0, false);
+            check.due(false, present.isBad(0));
+            check.due(value, present.medianOf(0));
+            check.due(0.0f, present.missingShare(0));
         }
-        check.due(false, gate.isBad(0));
     }
 
     private void setNumbers() {
