@@ -567,7 +567,13 @@ public final class QualityGate {
     }
 
     private Row rowWith(int id) {
-        return table.get(positionOf(id));
+        for (int i = 0; i < table.size(); i++) {
+            Row row = table.get(i);
+            if (row.id == id) {
+                return row;
+            }
+        }
+        throw new NoSuchElementException("there is no such row");
     }
 
     /** Tells whether the bit with this number, of a column or of a position in the table, is 1. */
@@ -579,7 +585,7 @@ public final class QualityGate {
         for (int index = 0; index < batch.size(); index++) {
             for (int number = 0; number < rules.size(); number++) {
                 Rule rule = rules.get(number);
-                if (rule.isStrict && !rule.isDropped && isRejectedBy(rule, number, index)) {
+                if (rule.isStrict && !rule.isDropped && isRejectedBy(rule, number, batch.get(index), index)) {
                     return true;
                 }
             }
@@ -588,8 +594,7 @@ public final class QualityGate {
     }
 
     /** Checks one staged row by one rule, and records the rejection if the row does not pass. */
-    private boolean isRejectedBy(Rule rule, int number, int index) {
-        Row row = batch.get(index);
+    private boolean isRejectedBy(Rule rule, int number, Row row, int index) {
         if (rule.isBrokenBy(row)) {
             rejection.note(index, number, NONE, false);
             return true;
@@ -601,7 +606,7 @@ public final class QualityGate {
                 return true;
             }
         }
-        for (int i = 0; i < index; i++) {
+        for (int i = 0; i < index && i < batch.size(); i++) {
             if (rule.isClash(row, batch.get(i))) {
                 rejection.note(index, number, i, true);
                 return true;
@@ -1060,16 +1065,16 @@ public final class QualityGate {
             for (int i = first; i < size; i++) {
                 if (firsts[i] == first) {
                     members++;
-                    mostEqual = Math.max(mostEqual, equalInClass(rows, i, column));
+                    mostEqual = Math.max(mostEqual, equalInClass(rows, first, column, rows.get(i).value(column)));
                 }
             }
             return members - mostEqual;
         }
 
-        private int equalInClass(ArrayList<Row> rows, int position, int column) {
+        private int equalInClass(ArrayList<Row> rows, int first, int column, int value) {
             int equal = 0;
             for (int i = 0; i < size; i++) {
-                if (firsts[i] == firsts[position] && rows.get(i).value(column) == rows.get(position).value(column)) {
+                if (firsts[i] == first && rows.get(i).value(column) == value) {
                     equal++;
                 }
             }
